@@ -874,9 +874,12 @@ public final class WhiteSlope {
         private void snow() {
             int more = fall + draw() % 3;
             for (int cell = 0; cell < CELLS; cell++) {
-                loads[cell] += more;
+                addLoad(cell, more);
             }
-            capLoads();
+        }
+
+        private void addLoad(int cell, int more) {
+            loads[cell] = Math.min(loads[cell] + more, MOST_LOAD);
         }
 
         private void drift() {
@@ -887,11 +890,10 @@ public final class WhiteSlope {
                     loads[cell] -= goes;
                     int next = neighbour(cell, 1);
                     if (next != NONE) {
-                        loads[next] += goes;
+                        addLoad(next, goes);
                     }
                 }
             }
-            capLoads();
         }
 
         private int slide() {
@@ -909,14 +911,11 @@ public final class WhiteSlope {
                     }
                 }
             }
-            capLoads();
-            return slides;
-        }
-
-        private void capLoads() {
+            // Only behind all SLIDES: what slides further in the same TICK is not cut on its way.
             for (int cell = 0; cell < CELLS; cell++) {
-                loads[cell] = Math.min(loads[cell], MOST_LOAD);
+                addLoad(cell, 0);
             }
+            return slides;
         }
 
         private int trackRisk() {
@@ -1126,7 +1125,6 @@ public final class WhiteSlope {
         private final int[] codes = new int[TAPE_BYTES];
 
         private void begin() {
-            key = RISK_KEY;
             pieces = 0;
             length = 0;
         }
@@ -1174,6 +1172,7 @@ public final class WhiteSlope {
         /** What a TEXT gives; second stands for that NAME of its KEY that is neither s nor d. */
         private int worth(int number, int steep, int second, int danger) {
             Law law = rows[number];
+            // Each code puts one number on top at most, so that the stack has room for all codes of a TEXT.
             int top = 0;
             for (int i = 0; i < law.length; i++) {
                 int code = law.codes[i];

@@ -38,6 +38,10 @@ public final class SheetsTest {
         DUE.is("no first", x.mark(3, 0, 5), Due.INDEX);
         DUE.is("again", x.sheet(3, 0, 24), 24);
         DUE.is("all 0", placeOf(x, 3, 23), 0);
+        x.mark(3, 0, 7);
+        x.sheet(3, 1, 1);
+        DUE.is("the first one, too", placeOf(x, 3, 0), 0);
+        x.sheet(3, 0, 24);
         DUE.is("BAD goes first: sheet -1", x.sheet(-1, 0, -1), Due.BAD);
         DUE.is("sheet 4", x.sheet(4, 0, 1), Due.BAD);
         DUE.is("sort 2", x.sheet(0, 2, -1), Due.BAD);
@@ -136,6 +140,16 @@ public final class SheetsTest {
         DUE.is("no further than the SHEET", x.reads(1), Due.NONE);
         x.sheet(2, 0, 0);
         DUE.is("none at all", x.reads(2), Due.NONE);
+        x.seed(99);
+        x.deal();
+        x.place(26, 1, 60, 999);
+        x.place(20, 3, 50, 40);
+        x.place(2, 1, 31, 0);
+        for (int cell = 0; cell < 24; cell++) {
+            DUE.is("not yet", x.reads(0) < cell && x.reads(0) != Due.NONE ? 1 : 0, 0);
+            x.mark(0, cell, x.told(cell, 5));
+        }
+        DUE.is("RISKS of a drawn MOUNTAIN", x.reads(0), Due.NONE);
         DUE.is("MISSING", x.reads(3), Due.NOTHING);
         DUE.is("sheet -1", x.reads(-1), Due.BAD);
         DUE.is("sheet 4", x.reads(4), Due.BAD);

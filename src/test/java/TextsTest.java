@@ -91,6 +91,11 @@ public final class TextsTest {
         fault("risk", 4);
         fault("risk  ", 6);
         fault("risk5", 4);
+        fault("xisk 5", 0);
+        fault("risl 5", 0);
+        fault("riska 5", 0);
+        fault("risk sa", 5);
+        fault("risk sz", 5);
         fault("risk 5s", 6);
         fault("risk 5 s", 7);
         fault("risk s5", 6);
@@ -178,6 +183,7 @@ public final class TextsTest {
         worth("7/2*2", 6);
         worth("100*(1<2)+10*(2<1)+(2=2)", 101);
         worth("100*(2>1)+10*(1>2)+(1>1)", 100);
+        worth("(2<2)+(2>2)", 0);
         worth("1+1=2", 1);
         worth("3|0", 1);
         worth("0|0", 0);

@@ -60,6 +60,7 @@ public final class TicksTest {
         x.set(8, 1, 29);
         x.set(9, 1, 21);
         x.set(11, 1, 40);
+        x.set(29, 1, 30);
         x.place(0, 5, 0, 999);
         x.place(3, 0, 0, 20);
         DUE.is("no SLIDE", x.run(1), 0);
@@ -68,6 +69,7 @@ public final class TicksTest {
             DUE.is("DRIFT at COLUMN " + column, x.told(6 + column, 2), row[column]);
         }
         DUE.is("nothing comes to the next ROW", x.told(12, 2), 0);
+        DUE.is("from the last CELL it is gone", x.told(29, 2), 29);
         DUE.is("WOODED does not DRIFT", x.told(0, 2), 999);
         DUE.is("20 does not DRIFT", x.told(3, 2), 20);
         x.place(1, 5, 0, 0);
@@ -137,6 +139,11 @@ public final class TicksTest {
         x.run(1);
         DUE.is("held behind the fall", x.told(3, 2), 999);
         x = dry();
+        x.today(2, 9);
+        x.place(0, 0, 0, 998);
+        x.run(1);
+        DUE.is("held behind the fall, ahead of the DRIFT", x.told(0, 2), 999 - 97);
+        x = dry();
         x.set(0, 1, 999);
         x.place(1, 5, 0, 999);
         x.run(1);
@@ -150,6 +157,16 @@ public final class TicksTest {
         DUE.is("three SLIDES", x.run(1), 3);
         DUE.is("held behind all SLIDES", x.told(6, 2), 999);
         DUE.is("all LOAD", x.count(0), 999);
+        x = dry();
+        x.place(6, 5, 40, 999);
+        x.place(0, 5, 0, 999);
+        DUE.is("ROW 1 SLIDES into ROW 0", x.run(1), 1);
+        DUE.is("held there", x.told(0, 2), 999);
+        x.set(0, 1, 3);
+        x.set(6, 1, 51);
+        x.seed(DRY);
+        x.run(1);
+        DUE.is("all came to ROW 0", x.told(0, 2), 54);
     }
 
     private static void ahead() {
@@ -189,6 +206,12 @@ public final class TicksTest {
             DUE.is("bad ahead", x.ahead(b[0], b[1]), Due.BAD);
         }
         DUE.is("the first of equal LOADS", new WhiteSlope().ahead(3, 3), 0);
+        for (int cell = 0; cell < 30; cell++) {
+            WhiteSlope one = new WhiteSlope();
+            one.set(cell, 1, 9);
+            DUE.is("the only CELL with the greatest", one.ahead(0, 3), cell);
+            DUE.is("its LOAD", one.ahead(0, 2), 9);
+        }
     }
 
     private static void calm() {

@@ -138,6 +138,11 @@ public final class TrackTest {
         DUE.is("still above 21", x.turnBack(21), 2);
         DUE.is("not above 22", x.turnBack(22), Due.NONE);
         DUE.is("the greatest r", x.turnBack(99999), Due.NONE);
+        x.wipe();
+        x.track(1);
+        DUE.is("what was wiped does not count", x.turnBack(0), Due.NONE);
+        DUE.is("nor does its STEEP", x.along(3), 0);
+        DUE.is("nor does its RISK", x.along(4), 0);
         DUE.is("turnBack(100000)", x.turnBack(100000), Due.BAD);
         DUE.is("turnBack(-1)", x.turnBack(-1), Due.BAD);
     }

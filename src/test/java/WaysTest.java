@@ -95,6 +95,8 @@ public final class WaysTest {
         DUE.is("to the same with more", x.bound(9, 9, 40), 0);
         DUE.is("to another with none", x.bound(0, 6, 0), Due.NONE);
         DUE.is("the last one's RISK counts", x.bound(0, 1, 1), 22);
+        DUE.is("to CELL 0", x.bound(12, 0, 2), 0);
+        DUE.is("steps may be left over", x.bound(12, 0, 3), 0);
         int[][] bad = {{-1, 0, 0}, {30, 0, 0}, {0, -1, 0}, {0, 30, 0}, {0, 0, -1}, {0, 0, 41}};
         for (int[] b : bad) {
             DUE.is("bad bound", x.bound(b[0], b[1], b[2]), Due.BAD);
