@@ -140,6 +140,7 @@ public final class TrackTest {
         DUE.is("the greatest r", x.turnBack(99999), Due.NONE);
         x.wipe();
         x.track(1);
+        x.track(7);
         DUE.is("what was wiped does not count", x.turnBack(0), Due.NONE);
         DUE.is("nor does its STEEP", x.along(3), 0);
         DUE.is("nor does its RISK", x.along(4), 0);
