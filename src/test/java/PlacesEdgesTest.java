@@ -19,6 +19,7 @@ public final class PlacesEdgesTest {
         t1HoldIsHeld();
         t1HoldAloneIsHeld();
         t1HoldOfKindsNotNamed();
+        t1HoldByRow();
         t1WorthAtItsEnds();
         p1New();
         p1NewHasNoTrackTextImage();
@@ -209,6 +210,14 @@ public final class PlacesEdgesTest {
         DUE.is("T1 HOLD: BENEATH is not named, as PLACE", x.told(2, 6), 37);
         x.turns(2, 3);
         DUE.is("T1 HOLD: TRAPPED is not named, as BENEATH", x.told(2, 6), 37);
+    }
+
+    // Terms 1 and 4: "CELL 6 times the ROW (0 .. 4, 0 is the lowest) and the COLUMN", seen by hold's r.
+    private static void t1HoldByRow() {
+        WhiteSlope x = withText("hold r*9+s");
+        for (int cell = 0; cell < 30; cell++) {
+            DUE.is("T1 ROW: of CELL " + cell, x.told(cell, 6), cell / 6 * 9);
+        }
     }
 
     // Terms 1, WORTH, with STEEP and LOAD at their ends.

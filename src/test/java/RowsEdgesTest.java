@@ -14,6 +14,7 @@ public final class RowsEdgesTest {
         p38Ends();
         p38NoneWait();
         p38Missing();
+        p38MissingThatWaitedOnce();
         p38TooMany();
         p38Wrong();
         p38ByTheImage();
@@ -24,8 +25,10 @@ public final class RowsEdgesTest {
         p40AgainAndAgain();
         p40LeavesOut();
         p40Everything();
+        p40EachCount();
         p41Bad();
         p41Ends();
+        theLastCallCounts();
         DUE.end();
     }
 
@@ -180,6 +183,18 @@ public final class RowsEdgesTest {
             WhiteSlope x = kept();
             tell(x, told, many);
             DUE.is("P38 check: missing behind " + many, x.check(30), 1 + many);
+        }
+    }
+
+    // Promise 38: what waited ahead of the last check stands for nothing that is missing.
+    private static void p38MissingThatWaitedOnce() {
+        int[] told = ticksTold(30);
+        for (int many = 0; many < 60; many += 7) {
+            WhiteSlope x = kept();
+            tell(x, told, 60);
+            DUE.is("P38 check: all 60 wait", x.check(30), 0);
+            tell(x, told, many);
+            DUE.is("P38 check: " + many + " of them wait again", x.check(30), 1 + many);
         }
     }
 
@@ -359,6 +374,31 @@ public final class RowsEdgesTest {
         DUE.is("P40 back: the last one counts", x.told(0, 6), 13);
     }
 
+    // Promise 40: "All is as THE IMAGE": each number by itself, with all others changed.
+    private static void p40EachCount() {
+        WhiteSlope x = Twins.rich();
+        x.keep();
+        int[] had = new int[10];
+        for (int what = 0; what < 10; what++) {
+            had[what] = x.count(what);
+        }
+        x.run(5);
+        x.today(0, 1);
+        x.today(1, 1);
+        x.today(2, 1);
+        x.wipe();
+        x.text();
+        x.seed(4);
+        x.deal();
+        for (int what : new int[] {0, 1, 2, 3, 4, 5, 6, 9}) {
+            DUE.holds("P40 back: count(" + what + ") is another ahead of it", x.count(what) != had[what]);
+        }
+        x.back();
+        for (int what : new int[] {0, 1, 2, 3, 4, 5, 6, 9}) {
+            DUE.is("P40 back: count(" + what + ")", x.count(what), had[what]);
+        }
+    }
+
     // Promise 41: "BAD".
     private static void p41Bad() {
         for (int what : new int[] {-1, 10, 11, Due.LOWEST, Due.HIGHEST}) {
@@ -391,6 +431,21 @@ public final class RowsEdgesTest {
         int[] most = {29970, 0, 5, 23, 9, 24, 14, 60, 96, Due.LOWEST};
         for (int what = 0; what < 10; what++) {
             DUE.is("P41 count: most of " + what, x.count(what), most[what]);
+        }
+    }
+
+    // "An object is used for at most 512 calls": the 512th is answered as the first one is.
+    private static void theLastCallCounts() {
+        WhiteSlope x = new WhiteSlope();
+        long z = 1;
+        for (int call = 1; call <= 511; call++) {
+            x.run(1);
+            z = Math.floorMod(z * 1103515245L + 12345L, 1L << 32);
+        }
+        DUE.is("512 calls: the last one", x.count(9), (int) z);
+        x = new WhiteSlope();
+        for (int call = 1; call <= 512; call++) {
+            DUE.is("512 calls: a FAULT each time", x.text(), -100);
         }
     }
 }

@@ -14,6 +14,7 @@ public final class TextsEdgesTest {
         t4KeyIsOneOfThree();
         t4NamesAreOfTheirKey();
         t4OneTestAlone();
+        t4LoosestFirst();
         t4NinthParenthesis();
         t4NinthNot();
         t4EachByItself();
@@ -85,6 +86,10 @@ public final class TextsEdgesTest {
         fault("T4 word: a NAME right behind a NUMBER", "risk 5s", 6);
         fault("T4 word: a NUMBER right behind a NAME", "risk s5", 6);
         fault("T4 word: two letters are one word", "risk ss", 5);
+        fault("T4 word: a is a letter", "risk sa", 5);
+        fault("T4 word: z is a letter", "risk sz", 5);
+        fault("T4 word: 0 is a digit", "risk 10000", 5);
+        fault("T4 word: 9 is a digit", "risk 99999", 5);
         fault("T4 word: with a blank no TEXT goes on, either", "risk 5 s", 7);
         right("T4 word: a sign needs none", "risk(s)");
         right("T4 word: a sign needs none", "risk!s");
@@ -144,6 +149,11 @@ public final class TextsEdgesTest {
         for (String key : new String[] {"ris", "riskk", "rist", "hol", "holds", "hole", "ste", "steps", "stem", "r", "s", "rist"}) {
             fault("T4 KEY: none is", key + " 1", 0);
         }
+        for (int i = 0; i < 4; i++) {
+            for (String key : new String[] {"risk", "hold", "step"}) {
+                fault("T4 KEY: one letter off", key.substring(0, i) + "x" + key.substring(i + 1) + " 1", 0);
+            }
+        }
         fault("T4 KEY: a NUMBER is none", "1 risk", 0);
         fault("T4 KEY: a sign is none", "(risk 1)", 0);
         fault("T4 KEY: none of capitals", "Risk 1", 0);
@@ -181,6 +191,20 @@ public final class TextsEdgesTest {
         right("T4 TEST: in ( )", "risk (1<2)<3");
         right("T4 TEST: by &", "risk 1<2&2<3|3<4");
         fault("T4 TEST: two in ( )", "risk (1<2<3)", 9);
+    }
+
+    // Terms 4: "E, the loosest first".
+    private static void t4LoosestFirst() {
+        gives("T4 loosest: | ahead of &", "1|1&0", 1);
+        gives("T4 loosest: | ahead of &, the other way", "0&1|1", 1);
+        gives("T4 loosest: & ahead of tests", "2>1&1", 1);
+        gives("T4 loosest: & ahead of tests, the other way", "2&3>2", 1);
+        gives("T4 loosest: tests ahead of sums", "3<2+2", 1);
+        gives("T4 loosest: sums ahead of products", "2+3*4", 14);
+        gives("T4 loosest: products ahead of !", "!0*7", 7);
+        gives("T4 loosest: from the left, -", "9-4-3", 2);
+        gives("T4 loosest: from the left, /", "80/4/5", 4);
+        gives("T4 loosest: from the left, / and *", "9/2*2", 8);
     }
 
     // Terms 4, FAULT: "the ninth ( that would be open within others".
@@ -253,6 +277,12 @@ public final class TextsEdgesTest {
         gives("T4 truth: below 0 is true for |", "0|(0-6)", 1);
         gives("T4 truth: below 0 is true for !", "!(0-1)", 0);
         gives("T4 truth: ! of 0", "!0", 1);
+        gives("T4 truth: ! of 1", "7+!1", 7);
+        gives("T4 truth: ! of 5, of 0", "(!5)*2+!0", 1);
+        gives("T4 truth: ! of !", "7+!!5*10", 17);
+        gives("T4 truth: & gives 0 else", "7+(3&0)", 7);
+        gives("T4 truth: | gives 0 else", "7+(0|0)", 7);
+        gives("T4 truth: tests give 0 else", "7+(1<0)+(1=0)+(0>1)", 7);
         gives("T4 truth: & gives 1, not a bit", "4&2", 1);
         gives("T4 truth: | gives 1, not a sum", "4|2", 1);
         gives("T4 truth: & with 0", "(4&0)+(0&4)+(0&0)", 0);

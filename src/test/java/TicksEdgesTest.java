@@ -10,6 +10,7 @@ public final class TicksEdgesTest {
         t2DriftTenthIsCut();
         t2DriftIsByLoadsBehindTheFall();
         t2DriftDoesNotGoOn();
+        t2DriftOfEachCell();
         t2DriftFromTheLastColumnIsGone();
         t2WoodedDoesNotDrift();
         t2DriftIsCutAt999();
@@ -151,6 +152,20 @@ public final class TicksEdgesTest {
         }
     }
 
+    // Terms 2, DRIFT: "of each CELL": the first ones of all ROWS, too.
+    private static void t2DriftOfEachCell() {
+        for (int cell = 0; cell < 30; cell++) {
+            WhiteSlope x = dry();
+            x.set(cell, 1, 120);
+            x.run(1);
+            DUE.is("T2 DRIFT: from CELL " + cell, x.told(cell, 2), 110);
+            DUE.is("T2 DRIFT: all LOAD behind CELL " + cell, x.count(0), cell % 6 == 5 ? 110 : 120);
+            if (cell % 6 < 5) {
+                DUE.is("T2 DRIFT: to the next of CELL " + cell, x.told(cell + 1, 2), 10);
+            }
+        }
+    }
+
     // Terms 2, DRIFT: "(from COLUMN 5 it is gone)".
     private static void t2DriftFromTheLastColumnIsGone() {
         for (int row = 0; row < 5; row++) {
@@ -281,6 +296,13 @@ public final class TicksEdgesTest {
         DUE.is("T2 SLIDES: 990 to 9", x.told(21, 2), 999);
         DUE.is("T2 SLIDES: 990 to 10 is cut", x.told(20, 2), 999);
         DUE.is("T2 SLIDES: all LOAD", x.count(0), 1998);
+        for (int cell = 0; cell < 24; cell++) {
+            x = holding(99);
+            x.place(cell + 6, 5, 30, 999);
+            x.place(cell, 5, 0, 999);
+            x.run(1);
+            DUE.is("T2 SLIDES: 999 to 999 is cut at CELL " + cell, x.told(cell, 2), 999);
+        }
         x = holding(0);
         x.today(1, 23);
         x.place(24, 5, 30, 999);
@@ -424,8 +446,12 @@ public final class TicksEdgesTest {
     private static void p11FirstOfEquals() {
         WhiteSlope x = new WhiteSlope();
         DUE.is("P11 ahead: all have none, the first", x.ahead(0, 3), 0);
+        for (int cell = 0; cell < 30; cell++) {
+            WhiteSlope one = new WhiteSlope();
+            one.set(cell, 1, 1);
+            DUE.is("P11 ahead: one alone", one.ahead(0, 3), cell);
+        }
         x.set(29, 1, 7);
-        DUE.is("P11 ahead: the last one alone", x.ahead(0, 3), 29);
         x.set(17, 1, 7);
         DUE.is("P11 ahead: the first of two", x.ahead(0, 3), 17);
         x.set(0, 1, 7);

@@ -26,6 +26,9 @@ public final class TrackEdgesTest {
         p16None();
         p16One();
         p16FirstOneToo();
+        p16Flat();
+        p16Full();
+        p16Wiped();
         p17Bad();
         p17Ends();
         p17AboveR();
@@ -268,10 +271,43 @@ public final class TrackEdgesTest {
                 x.place(i, 0, i == most ? 45 : 31, 0);
                 x.track(i);
             }
+            DUE.is("P16 along: RISK without the first, most at " + most, x.along(0), most == 0 ? 8 : 36);
             DUE.is("P16 along: greatest STEEP at " + most, x.along(3), 45);
             DUE.is("P16 along: greatest RISK at " + most, x.along(4), 32);
-            DUE.is("P16 along: RISK without the first, most at " + most, x.along(0), most == 0 ? 8 : 36);
         }
+    }
+
+    // Promise 16: nothing STEEP, no RISK.
+    private static void p16Flat() {
+        WhiteSlope x = tracked(2);
+        DUE.is("P16 along: flat, the greatest STEEP", x.along(3), 0);
+        DUE.is("P16 along: flat, the greatest RISK", x.along(4), 0);
+        DUE.is("P16 along: flat, RISK", x.along(0), 0);
+    }
+
+    // Promise 16: all of a full TRACK, with the greatest numbers there are.
+    private static void p16Full() {
+        WhiteSlope x = tracked(24);
+        Due.text(x, "risk 999");
+        Due.text(x, "step 99");
+        x.place(0, 3, 60, 0);
+        x.place(1, 3, 60, 0);
+        int[] want = {23 * 2996, 23 * 99, 22, 60, 2996};
+        for (int what = 0; what < 5; what++) {
+            DUE.is("P16 along: 24 CELLS, what " + what, x.along(what), want[what]);
+        }
+    }
+
+    // Promises 14 and 16: what was wiped counts no more.
+    private static void p16Wiped() {
+        WhiteSlope x = tracked(24);
+        x.place(1, 0, 60, 999);
+        x.wipe();
+        x.track(0);
+        for (int what = 0; what < 5; what++) {
+            DUE.is("P16 along: wiped CELLS, what " + what, x.along(what), 0);
+        }
+        DUE.is("P17 turnBack: wiped CELLS", x.turnBack(0), Due.NONE);
     }
 
     // Promise 17: "BAD".

@@ -290,6 +290,12 @@ public final class WaysEdgesTest {
             Twins.refused(DUE, "P22 odds: BAD " + b[0] + ", " + b[1] + ", " + b[2], Due.BAD,
                 x -> x.odds(b[0], b[1], b[2]));
         }
+        for (int m = 0; m <= 12; m++) {
+            for (int p : new int[] {-1, -2, -50, 101, 150}) {
+                DUE.is("P22 odds: BAD " + p + " behind " + m + ", above", new WhiteSlope().odds(p, m, 0), Due.BAD);
+                DUE.is("P22 odds: BAD " + p + " behind " + m + ", below", new WhiteSlope().odds(p, m, 1), Due.BAD);
+            }
+        }
     }
 
     // Terms: "(Where a long is told, BAD is it, too.)"
