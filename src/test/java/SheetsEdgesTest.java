@@ -674,7 +674,8 @@ public final class SheetsEdgesTest {
 
     // Terms: "/ cuts towards 0", so that a rest has the number's sign.
     private static void p36Signs() {
-        int[][] rests = {{17, 5, 2}, {17, -5, 2}, {-17, 5, -2}, {-17, -5, -2}, {5, 5, 0}, {4, 5, 4}, {0, 5, 0}, {7, 1, 0}, {7, -1, 0}};
+        int[][] rests = {{17, 5, 2}, {17, -5, 2}, {-17, 5, -2}, {-17, -5, -2}, {5, 5, 0},
+            {4, 5, 4}, {0, 5, 0}, {7, 1, 0}, {7, -1, 0}};
         for (int[] r : rests) {
             WhiteSlope x = new WhiteSlope();
             x.lay(4, 3, r[0]);

@@ -113,7 +113,8 @@ public final class TextsEdgesTest {
 
     // Terms 4: "any other byte is a sign by itself", those around a .. z and 0 .. 9, and above 127, too.
     private static void t4OtherBytesAreSigns() {
-        for (char c : new char[] {'`', '{', ':', '@', 'A', 'S', 'Z', '[', '_', '.', ',', '%', '\u007f', '\u0080', '\u00ff', '\u00f3'}) {
+        for (char c : new char[] {'`', '{', ':', '@', 'A', 'S', 'Z', '[', '_', '.', ',', '%',
+            '\u007f', '\u0080', '\u00ff', '\u00f3'}) {
             fault("T4 sign: byte " + (int) c + " as a piece", "risk " + c, 5);
             fault("T4 sign: byte " + (int) c + " behind a NAME", "risk s" + c, 6);
             fault("T4 sign: byte " + (int) c + " behind the KEY", "risk" + c + "1", 4);
@@ -146,7 +147,8 @@ public final class TextsEdgesTest {
 
     // Terms 4: "KEY: risk | hold | step".
     private static void t4KeyIsOneOfThree() {
-        for (String key : new String[] {"ris", "riskk", "rist", "hol", "holds", "hole", "ste", "steps", "stem", "r", "s", "rist"}) {
+        for (String key : new String[] {"ris", "riskk", "rist", "hol", "holds", "hole", "ste", "steps", "stem",
+            "r", "s"}) {
             fault("T4 KEY: none is", key + " 1", 0);
         }
         for (int i = 0; i < 4; i++) {
