@@ -57,8 +57,32 @@ public final class FaceTest {
         for (Class<?> inside : WhiteSlope.class.getDeclaredClasses()) {
             DUE.holds(inside + " is static and not public",
                 Modifier.isStatic(inside.getModifiers()) && !Modifier.isPublic(inside.getModifiers()));
+            inside(inside, names);
         }
+        fields(WhiteSlope.class);
         DUE.holds("few classes", WhiteSlope.class.getDeclaredClasses().length < 12);
+    }
+
+    /** LANGUAGE.md, rules 1 and 2. */
+    private static void inside(Class<?> inside, Set<String> names) {
+        for (Method m : inside.getDeclaredMethods()) {
+            DUE.holds(m + " bears no public name", !names.contains(m.getName()));
+        }
+        DUE.is("classes inside " + inside, inside.getDeclaredClasses().length, 0);
+        fields(inside);
+    }
+
+    /** LANGUAGE.md, rules 5 and 11. */
+    private static void fields(Class<?> owner) {
+        int many = 0;
+        for (Field f : owner.getDeclaredFields()) {
+            if (Modifier.isStatic(f.getModifiers())) {
+                DUE.holds(f + " is final", Modifier.isFinal(f.getModifiers()));
+            } else {
+                many++;
+            }
+        }
+        DUE.holds(owner + " has few fields, not " + many, many <= 20);
     }
 
     private static void constants() throws IllegalAccessException {
@@ -96,6 +120,7 @@ public final class FaceTest {
         methods(source);
     }
 
+    /** LANGUAGE.md, rules 11 and 12: all rows are made in constructors, so that calls fill no room. */
     private static void methods(String source) {
         Matcher m = Pattern.compile("\n( +)(?:public|private)[\\w\\[\\] ]* \\w+\\(([^)]*)\\) \\{\n(.*?)\n\\1\\}",
             Pattern.DOTALL).matcher(source);
@@ -103,6 +128,9 @@ public final class FaceTest {
         while (m.find()) {
             many++;
             DUE.holds("a short method: " + m.group().trim().split("\n")[0], m.group(3).split("\n").length <= 60);
+            boolean constructor = m.group().matches("(?s)\\s+(public|private) \\w+\\(.*");
+            DUE.holds("no object is made in: " + m.group().trim().split("\n")[0],
+                constructor || !Pattern.compile("\\bnew\\b").matcher(m.group(3)).find());
             DUE.holds("few parameters: " + m.group(2), m.group(2).split(",").length <= 7);
         }
         DUE.holds("methods were found", many > 80);
